@@ -684,12 +684,15 @@ public final class PaintFrames {
      * order of the numbers that tell them. A row's digits are 1 less than those that tell it.
      */
     private static final class Digits {
+        /** How far up the digit of place 0 stands. */
+        static final int TOP = 3 * (MOST_PLACES - 1);
+
         static int at(int digits, int place) {
-            return digits >> (15 - 3 * place) & 7;
+            return digits >> TOP - 3 * place & 7;
         }
 
         static int put(int digit, int place) {
-            return digit << (15 - 3 * place);
+            return digit << TOP - 3 * place;
         }
 
         /** -1, if a digit is not one of the howMany from lowest on, or there are too many. */
@@ -741,10 +744,14 @@ public final class PaintFrames {
             return made;
         }
 
-        /** Stops at the first digit that is otherwise: that is cheaper than to make the painting. */
+        /**
+         * Stops at the first digit that is otherwise, and looks at digits by itself: all paintings are
+         * asked about each move when the classes are found, which nothing else costs as much as.
+         */
         static boolean becomesLess(int painting, int row, int places) {
-            for (int p = 0; p < places; p++) {
-                int more = at(painting, at(row, p)) - at(painting, p);
+            int last = TOP - 3 * (places - 1);
+            for (int shift = TOP; shift >= last; shift -= 3) {
+                int more = (painting >> TOP - 3 * (row >> shift & 7) & 7) - (painting >> shift & 7);
                 if (more != 0) {
                     return more < 0;
                 }
@@ -1001,7 +1008,8 @@ public final class PaintFrames {
         }
 
         boolean isLeast(int painting, int by) {
-            for (int i = 0; i < found; i++) {
+            // the first move leaves all where it is
+            for (int i = 1; i < found; i++) {
                 if ((keys[i] & 1) <= by && Digits.becomesLess(painting, keys[i] >> 1, places)) {
                     return false;
                 }

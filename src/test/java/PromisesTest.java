@@ -150,6 +150,12 @@ public final class PromisesTest {
         due("5 and more", y.generator(12345, 0), 3);
         due("5 FULL ahead of OVER", y.generator(12345, 1), FULL);
         due("5 the trouble stays", y.cause(0, 1), 2);
+
+        PaintFrames z = new PaintFrames();
+        due("5 class 2 of one move", z.kindOf(0, 2, 0), 10);
+        due("5 the first row of all", z.generator(1234, 0), 0);
+        due("5 a turn", z.generator(2341, 0), 1);
+        due("5 class 2 by that turn", z.kindOf(0, 2, 0), 11);
     }
 
     private static void p6Drop() {
@@ -158,6 +164,7 @@ public final class PromisesTest {
         x.lay(0, 1, 0);
         x.lay(0, 2, 1);
         x.lay(2, 1, 1);
+        due("6 class 3 by all", x.kindOf(1, 3, 0), 101);
         due("6 drop()", x.drop(), 1);
         due("6 moves", x.told(3), 4);
         due("6 rack 0 place 0", x.rack(0, 10), NIL);
@@ -167,6 +174,7 @@ public final class PromisesTest {
         due("6 drop() again", x.drop(), 0);
         due("6 one move", x.told(3), 1);
         due("6 classes", x.kindOf(1, 15, 0), 1111);
+        due("6 class 3 by none", x.kindOf(1, 3, 0), 11);
         due("6 none left", x.drop(), STATE);
     }
 
@@ -345,6 +353,7 @@ public final class PromisesTest {
         due("15 by 0", x.least(0, 210), 21);
         due("15 by 1", x.least(1, 210), 12);
         due("15 itself", x.least(1, 222), 222);
+        due("15 of 0s alone", x.least(0, 0), 0);
         due("15 by 2", x.least(2, 0), NONE);
         due("15 by ahead of painting", x.least(-1, -1), NONE);
         for (int p : new int[] {3, 30, 300, 1000, -1, MIN, MAX}) {
@@ -357,6 +366,7 @@ public final class PromisesTest {
         due("16 by 0", x.size(0, 210), 3);
         due("16 by 1", x.size(1, 210), 6);
         due("16 one", x.size(1, 111), 1);
+        due("16 of 0s alone", x.size(1, 0), 1);
         due("16 three by 1", x.size(1, 100), 3);
         due("16 by 2", x.size(2, 3), NONE);
         due("16 kind 3", x.size(0, 3), BAD);
@@ -406,6 +416,7 @@ public final class PromisesTest {
         due("19 by 0", x.use(0, 1110), 2);
         due("19 by 1", x.use(1, 1110), 1);
         due("19 all of kind 2", x.use(1, 30), 1);
+        due("19 all of kind 0", x.use(1, 3000), 1);
         due("19 of a kind that there is not", x.use(1, 2001), 0);
         due("19 0", x.use(1, 0), 0);
         due("19 9999", x.use(1, 9999), 0);
@@ -423,6 +434,7 @@ public final class PromisesTest {
         due("20 mirrored by 1", x.same(1, 12, 21), 1);
         due("20 others", x.same(1, 12, 11), 0);
         due("20 itself", x.same(0, 12, 12), 1);
+        due("20 0s alone", x.same(0, 0, 0), 1);
         due("20 a", x.same(0, 13, 12), BAD);
         due("20 b", x.same(0, 12, 1000), BAD);
         due("20 by", x.same(2, 13, 13), NONE);
@@ -435,6 +447,7 @@ public final class PromisesTest {
         due("21 other hand of that", x.handed(21, 1), 12);
         due("21 not handed", x.handed(100, 0), 0);
         due("21 other hand of one that is not", x.handed(100, 1), 1);
+        due("21 0s alone", x.handed(0, 1), 0);
         due("21 what 2", x.handed(999, 2), NONE);
         due("21 what -1", x.handed(0, -1), NONE);
         due("21 painting", x.handed(3, 0), BAD);
@@ -466,12 +479,17 @@ public final class PromisesTest {
         due("23 -1", x.likely(0, -1), NO);
         x.kinds(1);
         due("23 one", x.likely(0, 0), Double.doubleToLongBits(1.0));
+        x.places(6);
+        x.kinds(4);
+        due("23 the least likely", x.likely(0, 0), Double.doubleToLongBits(1.0 / 4096.0));
     }
 
     private static void p24Mean() {
         PaintFrames x = triangle();
         due("24 bits", x.mean(112, 0), Float.floatToIntBits(4f / 3f));
         due("24 nothing", x.mean(0, 0), 0);
+        due("24 one", x.mean(111, 0), Float.floatToIntBits(1f));
+        due("24 two", x.mean(222, 0), Float.floatToIntBits(2f));
         due("24 round down", x.mean(112, 1), 1);
         due("24 round up", x.mean(122, 1), 2);
         x.weight(2, 9);
@@ -495,6 +513,10 @@ public final class PromisesTest {
         due("25 cast", x.spread(12, 1), 0);
         x.weight(2, 9);
         due("25 cast of more", x.spread(2, 1), 18);
+        due("25 bits of more", x.spread(2, 0), Double.doubleToLongBits(18.0));
+        x.weight(1, 3);
+        due("25 bits of two", x.spread(11, 0), Double.doubleToLongBits(2.0));
+        due("25 0s alone", x.spread(0, 0), 0);
         due("25 painting", x.spread(3, 0), NO);
         due("25 what", x.spread(0, 2), NO);
         due("25 what -1", x.spread(0, -1), NO);
@@ -625,6 +647,11 @@ public final class PromisesTest {
         due("30 of a kind that there is not", x.fits(0), 0);
         x.kinds(3);
         due("30 there it is again", x.fits(0), 4);
+        x.see(-1, 0, true);
+        x.see(1, 2000, false);
+        x.kinds(2);
+        due("30 of one at place 0 of b", x.fits(0), 0);
+        x.kinds(3);
         x.places(3);
         due("30 other places", x.fits(0), 0);
         due("30 other places: none", x.fits(1), NIL);
@@ -739,6 +766,7 @@ public final class PromisesTest {
         x.kinds(3);
         x.weight(1, 8);
         x.lay(0, 1, 1);
+        x.lay(2, 2, 1);
         x.see(1, 10, true);
         x.event(0, 4);
         x.image();
@@ -758,6 +786,7 @@ public final class PromisesTest {
         due("35 generators", x.of(1, 0), 1432);
         due("35 weight", x.weight(1, 8), 8);
         due("35 racks", x.rack(0, 11), 1);
+        due("35 the last rack", x.rack(2, 12), 1);
         due("35 seen", x.count(0), 1);
         due("35 seen fits", x.fits(0), 2);
         due("35 events", x.after(), 55);
@@ -796,7 +825,9 @@ public final class PromisesTest {
         due("37 MIN items", x.tape(0, 0, MIN), SIZE);
         due("37 sixty", x.tape(5, 3, 60), 1);
         due("37 the last", x.item(5, 59, 7), 1);
+        due("37 the first", x.item(5, 0, 7), 1);
         due("37 anew", x.tape(5, 3, 60), 1);
+        due("37 0 again", x.peek(5, 0), 0);
         due("37 all 0", x.peek(5, 59), 0);
         due("37 none of them", x.tape(5, 4, 0), 1);
         due("37 no place", x.item(5, 0, 1), PLACE);
