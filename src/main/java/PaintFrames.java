@@ -1099,22 +1099,15 @@ public final class PaintFrames {
 
     /** The library's own functions for bits are not in the language's part; no number here is below 0 or subnormal. */
     private static final class Bits {
+        /** A float is a double, too, but with fewer bits for its power and behind its point. */
         static int ofFloat(float value) {
             if (!(value > 0f)) {
                 return 0;
             }
-            float left = value;
-            int power = 127;
-            for (int step = 0; step < 128 && left >= 2f; step++) {
-                left = left / 2f;
-                power++;
-            }
-            for (int step = 0; step < 127 && left < 1f; step++) {
-                left = left * 2f;
-                power--;
-            }
-            int one = 1 << 23;
-            return (power << 23) + ((int) (left * (float) one) - one);
+            long wide = ofDouble((double) value);
+            int power = (int) (wide >> 52) - 1023 + 127;
+            int behindPoint = (int) (wide >> 29) & (1 << 23) - 1;
+            return power << 23 | behindPoint;
         }
 
         static long ofDouble(double value) {
