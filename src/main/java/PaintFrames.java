@@ -39,7 +39,7 @@ public final class PaintFrames {
         for (int t = 0; t < TAPES; t++) {
             tapes[t] = new Tape();
         }
-        moves.grow(frame.generators, 0, frame.places);
+        moves.begin(frame.places);
     }
 
     // ---- the frame
@@ -52,7 +52,8 @@ public final class PaintFrames {
         frame.places = v;
         frame.howManyGenerators = 0;
         frame.emptyRacks();
-        growMoves();
+        moves.begin(v);
+        forgetClasses();
         return before;
     }
 
@@ -922,12 +923,17 @@ public final class PaintFrames {
             return Digits.moved(first >> 1, then >> 1, places) << 1 | (first ^ then) & 1;
         }
 
-        /** False, if more come of the generators whose bits are set than there is room for. */
-        boolean grow(int[] generators, int set, int ofPlaces) {
+        /** With no generators there is just the move that leaves all where it is. */
+        void begin(int ofPlaces) {
             places = ofPlaces;
             found = 0;
             turns = 0;
             admit(Digits.unmoved(places) << 1);
+        }
+
+        /** False, if more come of the generators whose bits are set than there is room for. */
+        boolean grow(int[] generators, int set, int ofPlaces) {
+            begin(ofPlaces);
             for (int i = 0; i < found && i < MOST_MOVES; i++) {
                 for (int g = 0; g < generators.length; g++) {
                     if ((set >> g & 1) == 1 && !admit(behind(asFound[i], generators[g], places))) {
