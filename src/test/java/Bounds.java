@@ -75,14 +75,15 @@ abstract class Bounds {
         }
     }
 
-    /** Each static method of the class without parameters is one test, told by its name. */
+    /** Each static method of the class that takes and answers nothing is one test, told by its name. */
     static void runAll(Class<?> tests) throws Exception {
         check = new Check(tests.getSimpleName());
         Method[] all = tests.getDeclaredMethods();
         Arrays.sort(all, Comparator.comparing(Method::getName));
         int ran = 0;
         for (Method m : all) {
-            if (Modifier.isStatic(m.getModifiers()) && m.getParameterCount() == 0 && !m.isSynthetic()) {
+            boolean isTest = m.getParameterCount() == 0 && m.getReturnType() == void.class;
+            if (Modifier.isStatic(m.getModifiers()) && isTest && !m.isSynthetic()) {
                 test = m.getName();
                 m.setAccessible(true);
                 m.invoke(null);
