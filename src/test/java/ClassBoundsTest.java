@@ -168,6 +168,34 @@ public final class ClassBoundsTest extends Bounds {
         due("without generators", frame(6, 4).size(1, 123), 1);
     }
 
+    /** A mirror that leaves a painting does not make its class by turns smaller. */
+    static void sizesOfEachPaintingOfTheTriangle() {
+        PaintFrames x = triangle();
+        for (int a = 0; a < 3; a++) {
+            for (int b = 0; b < 3; b++) {
+                for (int c = 0; c < 3; c++) {
+                    int painting = a * 100 + b * 10 + c;
+                    boolean alike = a == b && b == c;
+                    boolean unlike = a != b && b != c && a != c;
+                    due("size(0, " + painting + ")", x.size(0, painting), alike ? 1 : 3);
+                    due("size(1, " + painting + ")", x.size(1, painting), alike ? 1 : unlike ? 6 : 3);
+                }
+            }
+        }
+    }
+
+    static void sizesOfEachClassOfTheTriangle() {
+        PaintFrames x = triangle();
+        int[] byTurns = {1, 3, 3, 3, 3, 3, 3, 1, 3, 3, 1};
+        int[] byAll = {1, 3, 3, 3, 6, 3, 1, 3, 3, 1};
+        for (int i = 0; i < byTurns.length; i++) {
+            due("kindOf(0, " + i + ", 1)", x.kindOf(0, i, 1), byTurns[i]);
+        }
+        for (int i = 0; i < byAll.length; i++) {
+            due("kindOf(1, " + i + ", 1)", x.kindOf(1, i, 1), byAll[i]);
+        }
+    }
+
     static void theGreatestSize() {
         PaintFrames x = new PaintFrames();
         Given.fillMoves(x);
@@ -360,6 +388,19 @@ public final class ClassBoundsTest extends Bounds {
         x.generator(123, 1);
         due("the mirror that leaves all", x.handed(12, 1), 12);
         due("by that nothing is handed", x.handed(12, 0), 0);
+    }
+
+    static void handedIsByTheMovesThatThereAre() {
+        PaintFrames x = triangle();
+        x.event(1, 0);
+        x.event(1, 1);
+        due("were there none", x.after(), 27);
+        due("not handed", x.handed(100, 0), 0);
+        due("handed", x.handed(12, 0), 1);
+        x.see(1, 1, true);
+        due("sets that fit", x.fits(0), 4);
+        due("not handed still", x.handed(110, 0), 0);
+        due("its other hand", x.handed(201, 1), 21);
     }
 
     static void handedNoSuchWhat() {

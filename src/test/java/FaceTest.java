@@ -87,10 +87,32 @@ public final class FaceTest {
         }
     }
 
+    /** Rule 4: of the library the program uses System.arraycopy and Long.MIN_VALUE, and makes objects of its own alone. */
+    private static void librariesAreNotUsed(String code) {
+        TreeSet<String> own = new TreeSet<>();
+        for (Class<?> inside : PaintFrames.class.getDeclaredClasses()) {
+            own.add(inside.getSimpleName());
+        }
+        TreeSet<String> others = new TreeSet<>();
+        Matcher qualified = Pattern.compile("\\b([A-Z][a-z]\\w*)\\.(\\w+)").matcher(code);
+        while (qualified.find()) {
+            if (!own.contains(qualified.group(1))) {
+                others.add(qualified.group());
+            }
+        }
+        check.holds("of the library: " + others, others.equals(new TreeSet<>(List.of("Long.MIN_VALUE", "System.arraycopy"))));
+        Matcher made = Pattern.compile("\\bnew (\\w+)\\b").matcher(code);
+        while (made.find()) {
+            String name = made.group(1);
+            check.holds("new " + name, own.contains(name) || name.equals("int") || name.equals("long"));
+        }
+    }
+
     private static void sourceKeepsToTheRules() throws Exception {
         String source = Files.readString(Path.of(System.getProperty("paintframes.source", "src/main/java/PaintFrames.java")));
         check.holds("all signs are 1 to 127", source.chars().allMatch(c -> c > 0 && c < 128));
         String code = source.replaceAll("(?s)/\\*.*?\\*/", "").replaceAll("//[^\\n]*", "");
+        librariesAreNotUsed(code);
         for (String not : NOT_THERE) {
             check.holds("no " + not, !Pattern.compile(not).matcher(code).find());
         }

@@ -406,6 +406,22 @@ public final class FrameBoundsTest extends Bounds {
         due("rack(0, 12)", x.rack(0, 12), NIL);
     }
 
+    static void dropEmptiesEachPlaceThatHeldIt() {
+        for (int r = 0; r <= 2; r++) {
+            for (int p = 0; p <= 2; p++) {
+                PaintFrames x = new PaintFrames();
+                x.generator(2143, r == 2 ? 1 : 0);
+                x.generator(3412, r == 2 ? 1 : 0);
+                x.lay(r, p, 1);
+                x.lay(r, (p + 1) % 3, 0);
+                due("drop()", x.drop(), 1);
+                due("rack(" + r + ", " + (10 + p) + ")", x.rack(r, 10 + p), NIL);
+                due("what lies beside it stays", x.rack(r, 10 + (p + 1) % 3), 0);
+                due("the product is that alone", x.rack(r, 0), 2143);
+            }
+        }
+    }
+
     static void dropMakesRoomForMoves() {
         PaintFrames x = new PaintFrames();
         Given.fillMoves(x);

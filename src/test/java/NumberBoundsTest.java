@@ -177,6 +177,53 @@ public final class NumberBoundsTest extends Bounds {
         due("000233", x.spread(233, 0), 4611185618468791183L);
     }
 
+    /** All that there are of each frame, by the Java library's own floats, doubles and bits. */
+    static void meanAndSpreadOfEachPainting() {
+        int[] weights = {9, 0, 4, 7};
+        for (int places = 2; places <= 6; places++) {
+            PaintFrames x = weighed(places, weights);
+            int calls = 0;
+            for (int i = 0; i < 1 << 2 * places; i++) {
+                calls += 4;
+                if (calls > 500) {
+                    x = weighed(places, weights);
+                    calls = 4;
+                }
+                dueOfPainting(x, places, i, weights);
+            }
+        }
+    }
+
+    private static PaintFrames weighed(int places, int[] weights) {
+        PaintFrames x = frame(places, 4);
+        for (int kind = 0; kind < 4; kind++) {
+            x.weight(kind, weights[kind]);
+        }
+        return x;
+    }
+
+    /** The i-th painting of four kinds has the digits of i, told by four of them. */
+    private static void dueOfPainting(PaintFrames x, int places, int i, int[] weights) {
+        int painting = 0;
+        int heavy = 0;
+        for (int p = 0; p < places; p++) {
+            int kind = i >> 2 * (places - 1 - p) & 3;
+            painting = painting * 10 + kind;
+            heavy += weights[kind];
+        }
+        float mean = (float) heavy / (float) places;
+        double m = (double) heavy / (double) places;
+        double sum = 0.0;
+        for (int p = 0; p < places; p++) {
+            double weight = weights[i >> 2 * (places - 1 - p) & 3];
+            sum = sum + (weight - m) * (weight - m);
+        }
+        due("mean(" + painting + ", 0)", x.mean(painting, 0), bits(mean));
+        due("mean(" + painting + ", 1)", x.mean(painting, 1), (int) (mean + 0.5f));
+        due("spread(" + painting + ", 0)", x.spread(painting, 0), bits(sum / (double) places));
+        due("spread(" + painting + ", 1)", x.spread(painting, 1), (long) (sum / (double) places));
+    }
+
     static void spreadFollowsTheWeights() {
         PaintFrames x = frame(2, 2);
         x.weight(0, 1);

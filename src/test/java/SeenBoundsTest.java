@@ -164,6 +164,20 @@ public final class SeenBoundsTest extends Bounds {
         }
     }
 
+    static void seenOfKindsFarBeyondThoseThatThereAre() {
+        for (int painting : new int[] {3, 30, 300, 3000}) {
+            for (boolean isA : new boolean[] {true, false}) {
+                PaintFrames x = new PaintFrames();
+                x.kinds(4);
+                x.see(isA ? painting : 0, isA ? 0 : painting, false);
+                for (int kinds = 4; kinds >= 1; kinds--) {
+                    x.kinds(kinds);
+                    due(painting + " of " + kinds + " kinds", x.fits(0), kinds == 4 ? 1 : 0);
+                }
+            }
+        }
+    }
+
     static void seenOfKindsThatThereAreNotInB() {
         PaintFrames x = squareOfThreeKinds();
         x.see(0, 2, false);
